@@ -889,7 +889,7 @@ public final class FoldPress {
             int job = total.get(0);
             lines.set(job, lineCount);
             widths.set(job, width);
-            pages.set(job, 0);
+            // It has no pages still: undo() takes a job away only while no later change has touched it.
             total.set(0, job + 1);
             return job;
         }
@@ -1401,17 +1401,10 @@ public final class FoldPress {
             owners.set(sheet, job);
             rowCounts.set(sheet, rows);
             columnCounts.set(sheet, columns);
-            for (int row = 0; row < SIDES * GRID; row++) {
-                torn.setUnnoted(sheet * SIDES * GRID + row, 0);
-            }
-            for (int cell = 0; cell < SIDES * LEAVES; cell++) {
-                cells.setUnnoted(sheet * SIDES * LEAVES + cell, 0);
-            }
-            gathered.set(sheet, 0);
             toldFolds.set(sheet, UNTOLD);
             places.set(sheet, REST);
             numbers.set(sheet, UNTOLD);
-            causes.set(sheet, 0);
+            // All else is 0 still: undo() takes a sheet away only while no later change has touched it.
             total.set(0, sheet + 1);
             return sheet;
         }
@@ -1645,8 +1638,7 @@ public final class FoldPress {
         int make(int way) {
             int signature = total.get(0);
             ways.set(signature, way);
-            sheetCounts.set(signature, 0);
-            booked.set(signature, 0);
+            // All else is 0 still: undo() takes a signature away only while no later change has touched it.
             total.set(0, signature + 1);
             return signature;
         }

@@ -198,6 +198,29 @@ public final class BookTest {
         }
     }
 
+    /** Every signature has room for its own sheets. */
+    private static void signaturesAreApart() {
+        FoldPress x = press();
+        for (int n = 0; n < 8; n++) {
+            x.sheet(0, 1, 2);
+        }
+        for (int n = 0; n < 4; n++) {
+            x.signature(BEHIND);
+        }
+        for (int n = 0; n < 4; n++) {
+            T.due(31, x.gather(3, n), n + 1);
+        }
+        T.due(31, x.gather(2, 4), 1);
+        T.due(31, x.gather(1, 5), 1);
+        for (int k = 0; k < 16; k++) {
+            T.due(33, x.leaf(3, 0, k, 0), k / 4);
+            T.due(33, x.leaf(3, 0, k, 1), k % 4);
+        }
+        T.due(33, x.leaf(2, 0, 3, 0), 4);
+        T.due(33, x.leaf(1, 0, 3, 0), 5);
+        T.due(33, x.leaf(0, 0, 0, 0), BEYOND);
+    }
+
     private static void creep() {
         FoldPress x = twoSheets(INSIDE);
         x.signature(BEHIND);
@@ -288,6 +311,21 @@ public final class BookTest {
         T.due(37, x.pageAt(0, 12), BEYOND);
     }
 
+    private static void pageAtOfLargeSheets() {
+        FoldPress x = press();
+        for (int n = 0; n < 3; n++) {
+            x.sheet(0, 2, 2);
+            x.signature(BEHIND);
+            x.gather(n, n);
+            x.add(n);
+            x.bind(n, 2, 1 + 8 * n);
+        }
+        for (int k = 0; k < 24; k++) {
+            T.due(37, x.pageAt(2, k), 1 + k);
+        }
+        T.due(37, x.pageAt(2, 24), BEYOND);
+    }
+
     private static void wrap() {
         FoldPress x = press();
         T.due(38, x.wrap(4, 0), NONE);
@@ -319,10 +357,12 @@ public final class BookTest {
         bindOnTorn();
         leaf();
         leafOfSingleLeaves();
+        signaturesAreApart();
         creep();
         add();
         cover();
         pageAt();
+        pageAtOfLargeSheets();
         wrap();
         T.end();
     }

@@ -167,6 +167,19 @@ public final class FoldsTest {
         shows(x, gateHalf, 1, 4, "1020", "0020", "0030", "1030", "1000", "0000", "0010", "1010");
     }
 
+    /** In each line of piles, and of the grid's own places alone. */
+    private static void severalLines() {
+        FoldPress x = new FoldPress();
+        int third = x.fold(THIRD, COLUMNS);
+        int thirdRows = x.fold(THIRD, ROWS);
+        int half = x.fold(HALF, COLUMNS);
+        int halfRows = x.fold(HALF, ROWS);
+        shows(x, x.cross(third, halfRows), 2, 3, "1111", "0111", "0121", "1121", "0101", "1101", "1000", "0000",
+            "1020", "0020", "0010", "1010");
+        shows(x, x.cross(half, thirdRows), 3, 2, "1001", "0001", "0011", "1011", "1201", "0201", "0211", "1211",
+            "1110", "0110", "0100", "1100");
+    }
+
     private static void wideThird() {
         FoldPress x = new FoldPress();
         int third = x.fold(THIRD, COLUMNS);
@@ -297,6 +310,7 @@ public final class FoldsTest {
         worth();
         plainFaces();
         crossedFaces();
+        severalLines();
         wideThird();
         wideGate();
         faceRefusals();

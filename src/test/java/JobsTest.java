@@ -324,6 +324,63 @@ public final class JobsTest {
         T.due(13, x.rows(0, 1, 8), 1);
     }
 
+    /** Each page is cut, the last one too, and each of its rows. */
+    private static void cutOfManyPages() {
+        FoldPress x = new FoldPress();
+        for (int job = 0; job < 3; job++) {
+            x.job(8, 10);
+            for (int page = 1; page <= 3; page++) {
+                x.page(job);
+                x.rows(job, page, 8);
+                for (int i = 0; i < 8; i++) {
+                    x.row(job, page, i, 10);
+                }
+            }
+        }
+        T.due(13, x.cut(1, 6, 7), 1);
+        for (int page = 1; page <= 3; page++) {
+            T.due(13, x.size(0, page, -1), 8);
+            T.due(13, x.size(1, page, -1), 6);
+            T.due(13, x.size(2, page, -1), 8);
+            for (int i = 0; i < 6; i++) {
+                T.due(13, x.size(0, page, i), 10);
+                T.due(13, x.size(1, page, i), 7);
+                T.due(13, x.size(2, page, i), 10);
+            }
+            T.due(13, x.size(1, page, 6), BEYOND);
+            T.due(13, x.size(0, page, 7), 10);
+        }
+    }
+
+    /** No page lies where another one does: the last letter of each first, last and second last page is its own. */
+    private static void pagesAreApart() {
+        FoldPress x = new FoldPress();
+        int[] pages = {1, 23, 24};
+        for (int job = 0; job < 3; job++) {
+            x.job(8, 10);
+            for (int page = 1; page <= 24; page++) {
+                x.page(job);
+            }
+            for (int page : pages) {
+                x.rows(job, page, 8);
+                x.row(job, page, 0, 10);
+                x.row(job, page, 7, 10);
+                x.letter(job, page, 0, 0, 33 + job + page);
+                x.letter(job, page, 7, 9, 63 + job + page);
+            }
+        }
+        for (int job = 0; job < 3; job++) {
+            for (int page : pages) {
+                T.due(9, x.at(job, page, 0, 0), 33 + job + page);
+                T.due(9, x.at(job, page, 0, 9), 32);
+                T.due(9, x.at(job, page, 7, 0), 32);
+                T.due(9, x.at(job, page, 7, 9), 63 + job + page);
+                T.due(10, x.size(job, page, 1), BLANK);
+            }
+            T.due(10, x.size(job, 2, -1), BLANK);
+        }
+    }
+
     private static void join() {
         FoldPress x = twoPages();
         write(x, 1, 0, "ABCDE");
@@ -386,6 +443,8 @@ public final class JobsTest {
         moveOfNoRowsOrOnePage();
         moved();
         cut();
+        cutOfManyPages();
+        pagesAreApart();
         join();
         about();
         T.end();

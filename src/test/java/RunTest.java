@@ -96,6 +96,7 @@ public final class RunTest {
         x.step();
         T.due(41, x.feed(1), BUSY);
         T.due(41, x.feed(0), 2);
+        T.due(41, x.feed(2), BUSY);
         T.due(41, x.told(4), 3);
         steps(x, 5);
         is(41, x, 0, GOOD, 2, 0);

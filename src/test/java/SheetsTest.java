@@ -161,6 +161,8 @@ public final class SheetsTest {
         T.due(12, x.moved(), 1);
         T.due(26, x.shift(1, 0, 1, 0, 0, 0, 1, 0), COPY);
         T.due(12, x.moved(), 0);
+        T.due(26, x.shift(0, 0, 0, 0, 0, 0, 1, 3), 1);
+        has(26, x, 0, 0, 0, 2, 3, 0);
         // Row 0 comes to row 1, and that goes on to row 2.
         T.due(26, x.shift(0, 0, 0, 0, 0, 1, 2, 2), 1);
         has(26, x, 0, 0, 2, 0, 1, 0);

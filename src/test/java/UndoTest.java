@@ -25,6 +25,7 @@ public final class UndoTest {
         x.sheet(0, 1, 2);
         x.sheet(0, 1, 2);
         x.sheet(1, 2, 2);
+        x.put(1, 0, 0, 0, 7, 1);
         x.signature(1);
         x.signature(0);
         x.gather(0, 2);
@@ -238,6 +239,7 @@ public final class UndoTest {
         T.due(47, x.state(1, 2), 9);
         T.due(49, x.undo(), 1);
         T.due(47, x.state(1, 0), 0);
+        T.due(47, x.state(1, 2), 0);
         T.due(44, x.step(), 1);
         T.due(47, x.state(1, 2), 9);
         T.due(50, x.told(4), 3);
@@ -245,6 +247,7 @@ public final class UndoTest {
 
     private static void foldToldIsTakenBack() {
         FoldPress x = press();
+        x.put(1, 0, 0, 0, 0, 0);
         x.fold(2, 1);
         x.foldBy(1, 0);
         x.foldBy(1, 1);
@@ -255,6 +258,26 @@ public final class UndoTest {
         x.step();
         T.due(44, x.step(), 1);
         T.due(47, x.state(1, 0), 4);
+    }
+
+    /** What was gathered or came into the book, and is out of it again, may come again. */
+    private static void mayComeAgain() {
+        FoldPress x = press();
+        T.due(31, x.gather(1, 1), 1);
+        x.undo();
+        T.due(31, x.gather(1, 1), 1);
+        x.undo();
+        T.due(31, x.gather(0, 1), 2);
+        T.due(34, x.creep(0, 0, 1), 2);
+        T.due(35, x.add(1), 2);
+        x.undo();
+        T.due(35, x.add(1), 2);
+        x.reprint(0);
+        x.undo();
+        T.due(45, x.reprint(0), 1);
+        T.due(41, x.feed(0), 1);
+        x.undo();
+        T.due(41, x.feed(0), 2);
     }
 
     /** What is made anew in the place of what was undone has nothing of it. */
@@ -345,6 +368,7 @@ public final class UndoTest {
         countsStay();
         toldThingsAreTakenBack();
         foldToldIsTakenBack();
+        mayComeAgain();
         madeAnew();
         undoOfManyCells();
         undoOfCut();
