@@ -355,16 +355,19 @@ public final class JobsTest {
     /** No page lies where another one does: the last letter of each first, last and second last page is its own. */
     private static void pagesAreApart() {
         FoldPress x = new FoldPress();
-        int[] pages = {1, 23, 24};
+        // From the last one back, so that a page which reached too far would spoil what is there already.
+        int[] pages = {24, 23, 1};
         for (int job = 0; job < 3; job++) {
             x.job(8, 10);
             for (int page = 1; page <= 24; page++) {
                 x.page(job);
             }
+        }
+        for (int job = 2; job >= 0; job--) {
             for (int page : pages) {
                 x.rows(job, page, 8);
-                x.row(job, page, 0, 10);
                 x.row(job, page, 7, 10);
+                x.row(job, page, 0, 10);
                 x.letter(job, page, 0, 0, 33 + job + page);
                 x.letter(job, page, 7, 9, 63 + job + page);
             }
@@ -379,6 +382,39 @@ public final class JobsTest {
             }
             T.due(10, x.size(job, 2, -1), BLANK);
         }
+    }
+
+    /** What cut() and join() do to a whole job ends with it. */
+    private static void jobsAreApart() {
+        FoldPress x = new FoldPress();
+        for (int job = 0; job < 2; job++) {
+            x.job(8, 10);
+            x.page(job);
+            x.rows(job, 1, 8);
+            x.row(job, 1, 0, 10);
+            x.row(job, 1, 7, 10);
+            x.letter(job, 1, 0, 0, 'a' + job);
+            x.letter(job, 1, 7, 0, 'm' + job);
+        }
+        T.due(14, x.join(0, 0), 2);
+        T.due(14, x.join(0, 0), 4);
+        T.due(14, x.join(0, 0), 8);
+        T.due(14, x.join(0, 0), 16);
+        for (int n = 17; n <= 24; n++) {
+            T.due(14, x.join(0, 1), n);
+        }
+        T.due(14, x.at(1, 1, 0, 0), 'b');
+        T.due(14, x.size(1, 1, 0), 10);
+        T.due(14, x.at(0, 16, 0, 0), 'a');
+        T.due(14, x.at(0, 24, 0, 0), 'b');
+        T.due(14, x.at(0, 24, 7, 0), 'n');
+        T.due(13, x.cut(0, 8, 5), 1);
+        T.due(13, x.size(0, 24, 7), 5);
+        T.due(13, x.size(1, 1, 0), 10);
+        T.due(13, x.cut(1, 3, 2), 1);
+        T.due(13, x.size(0, 24, -1), 8);
+        T.due(13, x.size(1, 1, -1), 3);
+        T.due(13, x.size(1, 1, 0), 2);
     }
 
     private static void join() {
@@ -445,6 +481,7 @@ public final class JobsTest {
         cut();
         cutOfManyPages();
         pagesAreApart();
+        jobsAreApart();
         join();
         about();
         T.end();

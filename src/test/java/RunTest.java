@@ -285,6 +285,20 @@ public final class RunTest {
         spoils(x, TURN, BLANK);
     }
 
+    /** PRINT looks at the front alone, to its last row. */
+    private static void sidesAreApart() {
+        FoldPress x = press(0);
+        x.sheet(0, 8, 8);
+        x.tear(0, 1, 0);
+        x.put(0, 0, 7, 7, 1, 0);
+        spoils(x, TURN, BLANK);
+        T.due(44, x.told(3), 'A');
+        x = press(0);
+        x.sheet(0, 8, 8);
+        x.tear(0, 0, 7);
+        spoils(x, PRINT, BLANK);
+    }
+
     private static void spoiltAtFold() {
         FoldPress x = press(0);
         x.sheet(0, 1, 2);
@@ -436,6 +450,7 @@ public final class RunTest {
         spoiltAtPrint();
         spoiltAtTurn();
         inkIsRowByRow();
+        sidesAreApart();
         spoiltAtFold();
         spoiltAtTrim();
         gateStaysOpen();
