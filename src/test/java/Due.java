@@ -1,15 +1,30 @@
 /** Compares answers with those that are due, and says where they differ. */
 final class Due {
+    private String name = "";
     private int asked = 0;
     private int wrong = 0;
 
+    /** From here on, what is not as due is told under this name. */
+    void begin(String nameOfCase) {
+        name = nameOfCase;
+    }
+
     /** An answer that a promise of the document makes due. */
     void due(int promise, int got, int want) {
+        compare("promise " + promise, got, want);
+    }
+
+    /** An answer that the case which has begun makes due. */
+    void due(int got, int want) {
+        compare(name, got, want);
+    }
+
+    private void compare(String what, int got, int want) {
         asked++;
         if (got != want) {
             wrong++;
-            StackTraceElement caller = new Throwable().getStackTrace()[1];
-            System.out.println(caller.getFileName() + ":" + caller.getLineNumber() + ": promise " + promise
+            StackTraceElement caller = new Throwable().getStackTrace()[2];
+            System.out.println(caller.getFileName() + ":" + caller.getLineNumber() + ": " + what
                 + " answered " + got + ", due is " + want);
         }
     }
@@ -19,8 +34,16 @@ final class Due {
         asked++;
         if (!holds) {
             wrong++;
-            System.out.println(otherwise);
+            System.out.println(name.isEmpty() ? otherwise : name + ": " + otherwise);
         }
+    }
+
+    int asked() {
+        return asked;
+    }
+
+    int wrong() {
+        return wrong;
     }
 
     /** Ends the test: with exit code 1, if an answer was wrong or none was asked for. */
