@@ -148,6 +148,19 @@ abstract class Bench {
         T.holds(view(x).equals(view(y)), "a call that is no change took the place of the latest change");
     }
 
+    /** A change is done on press(), and undo() takes it back, once, and nothing that was before it. */
+    static void takenBack(Call change) {
+        takenBack(Bench::press, change);
+    }
+
+    static void takenBack(Supplier<FoldPress> maker, Call change) {
+        FoldPress x = maker.get();
+        T.holds(change.applyAsInt(x) >= 0, "the change was not done");
+        T.due(x.undo(), 1);
+        T.holds(view(x).equals(view(maker.get())), "undo() did not take back the change, and it alone");
+        T.due(x.undo(), 0);
+    }
+
     /** A change is refused while the press is JAMMED, whether it would else be done or refused. */
     static void jammedAheadOfAll(Call done, Call refusedElse) {
         T.holds(done.applyAsInt(press()) >= 0, "the call is not done without a jam");

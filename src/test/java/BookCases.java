@@ -63,6 +63,10 @@ final class BookCases extends Bench {
         jammedAheadOfAll(x -> x.signature(0), x -> x.signature(2));
     }
 
+    static void promise30_undo_takes_it_back_and_nothing_before_it() {
+        takenBack(x -> x.signature(1));
+    }
+
     // ---- 31: gather
 
     static void promise31_a_signature_or_sheet_that_is_not_there_is_NONE() {
@@ -114,6 +118,32 @@ final class BookCases extends Bench {
 
     static void promise31_JAMMED_comes_ahead_of_NONE() {
         jammedAheadOfAll(x -> x.gather(0, 0), x -> x.gather(2, 0));
+    }
+
+    static void promise31_the_last_signature_holds_four_sheets_beside_the_others() {
+        FoldPress x = press();
+        x.signature(BEHIND);
+        x.signature(INSIDE);
+        for (int sheet = 4; sheet < 8; sheet++) {
+            x.sheet(0, 1, 2);
+        }
+        T.due(x.gather(2, 0), 1);
+        T.due(x.gather(2, 1), 2);
+        for (int sheet = 7; sheet >= 4; sheet--) {
+            T.due(x.gather(3, sheet), 8 - sheet);
+        }
+        T.due(x.gather(0, 2), 1);
+        T.due(x.leaf(2, HALF, 0, 0), 0);
+        T.due(x.leaf(2, HALF, 7, 0), 1);
+        T.due(x.leaf(3, HALF, 0, 0), 7);
+        T.due(x.leaf(3, HALF, 6, 0), 4);
+        T.due(x.leaf(3, HALF, 15, 0), 7);
+        T.due(x.creep(3, HALF, 3), 6);
+        T.due(x.creep(0, HALF, 1), BEYOND);
+    }
+
+    static void promise31_undo_takes_it_back_and_nothing_before_it() {
+        takenBack(x -> x.gather(0, 0));
     }
 
     // ---- 32: bind
@@ -268,6 +298,10 @@ final class BookCases extends Bench {
     static void promise32_JAMMED_comes_ahead_of_NONE_and_OUTSIDE() {
         jammedAheadOfAll(x -> x.bind(0, HALF, 1), x -> x.bind(2, HALF, 1));
         refused(Bench::jammedPress, x -> x.bind(0, HALF, 0), JAMMED);
+    }
+
+    static void promise32_undo_takes_it_back_and_nothing_before_it() {
+        takenBack(withBook(0), x -> x.bind(0, HALF, 1));
     }
 
     // ---- 33: leaf
@@ -431,6 +465,10 @@ final class BookCases extends Bench {
         jammedAheadOfAll(x -> x.add(0), x -> x.add(2));
     }
 
+    static void promise35_undo_takes_it_back_and_nothing_before_it() {
+        takenBack(x -> x.add(1));
+    }
+
     // ---- 36: cover
 
     static void promise36_a_sheet_that_is_not_there_is_NONE() {
@@ -464,6 +502,10 @@ final class BookCases extends Bench {
     static void promise36_JAMMED_comes_ahead_of_NONE() {
         jammedAheadOfAll(x -> x.cover(0), x -> x.cover(4));
         refused(Bench::jammedPress, x -> x.cover(-1), JAMMED);
+    }
+
+    static void promise36_undo_takes_it_back_and_nothing_before_it() {
+        takenBack(x -> x.cover(0));
     }
 
     // ---- 37: pageAt

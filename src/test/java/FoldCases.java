@@ -92,6 +92,10 @@ final class FoldCases extends Bench {
         jammedAheadOfAll(x -> x.fold(4, 1), x -> x.fold(5, 1));
     }
 
+    static void promise15_undo_takes_it_back_and_nothing_before_it() {
+        takenBack(x -> x.fold(4, 0));
+    }
+
     // ---- 16: cross
 
     static void promise16_a_first_fold_that_is_not_there_is_NONE() {
@@ -159,8 +163,27 @@ final class FoldCases extends Bench {
         T.due(x.worth(all, 0), 256);
     }
 
+    static void promise16_the_deepest_crosses_are_done_to_their_ends() {
+        FoldPress x = press();
+        FoldPress y = press();
+        int first = FLAT;
+        int second = FLAT;
+        for (int n = 2; n <= 8; n++) {
+            first = x.cross(first, FLAT);
+            second = y.cross(FLAT, second);
+        }
+        T.due(x.faces(first, 1, 1), 2);
+        T.due(x.told(6), 15);
+        T.due(y.faces(second, 1, 1), 2);
+        T.due(y.told(6), 15);
+    }
+
     static void promise16_JAMMED_comes_ahead_of_NONE() {
         jammedAheadOfAll(x -> x.cross(0, 1), x -> x.cross(0, 7));
+    }
+
+    static void promise16_undo_takes_it_back_and_nothing_before_it() {
+        takenBack(x -> x.cross(0, 1));
     }
 
     // ---- 17: lips
@@ -512,6 +535,45 @@ final class FoldCases extends Bench {
         FoldPress x = press();
         T.due(x.cross(GATE, SHUT), 7);
         lies(x, 7, 8, 4, 1, 7, 0, 6, 1, 5, 0, 2, 1, 1, 0, 0, 1, 3, 0);
+    }
+
+    /** The rows, and the sides above, of the leaves from above down of a fold of a column of piles. */
+    private static void liesByRows(FoldPress x, int fold, int rows, int... rowsAndSides) {
+        T.due(x.faces(fold, rows, 1), rowsAndSides.length);
+        for (int k = 0; k < rowsAndSides.length; k += 2) {
+            T.due(x.face(fold, rows, 1, k, 1), rowsAndSides[k]);
+            T.due(x.face(fold, rows, 1, k, 0), rowsAndSides[k + 1]);
+            T.due(x.face(fold, rows, 1, k, 3), rowsAndSides[k + 1]);
+            T.due(x.face(fold, rows, 1, k, 2), 0);
+        }
+    }
+
+    static void term2_by_axis_0_every_kind_lays_rows_as_by_axis_1_columns() {
+        FoldPress x = press();
+        T.due(x.fold(THIRD, BY_ROWS), 7);
+        T.due(x.fold(GATE, BY_ROWS), 8);
+        T.due(x.fold(SHUT, BY_ROWS), 9);
+        T.due(x.cross(8, 9), 10);
+        liesByRows(x, 7, 3, 0, 1, 2, 1, 1, 0);
+        liesByRows(x, 9, 4, 2, 1, 3, 0, 0, 1, 1, 0);
+        liesByRows(x, 10, 8, 4, 1, 7, 0, 6, 1, 5, 0, 2, 1, 1, 0, 0, 1, 3, 0);
+        liesByRows(x, ROWS, 2, 1, 1, 0, 0);
+        T.due(x.faces(FLAT, 1, 1), 2);
+        T.due(x.face(FLAT, 1, 1, 0, 1), 0);
+    }
+
+    static void term2_a_grid_folds_the_same_each_time() {
+        FoldPress x = press();
+        T.due(x.fold(THIRD, BY_ROWS), 7);
+        T.due(x.cross(THIRD, 7), 8);
+        for (int n = 0; n < 3; n++) {
+            T.due(x.face(8, 3, 3, 0, 1), 0);
+            T.due(x.face(8, 3, 3, 0, 2), 1);
+            T.due(x.face(8, 3, 3, 17, 1), 1);
+            T.due(x.face(8, 3, 3, 17, 2), 1);
+            T.due(x.face(FLAT, 1, 1, 0, 1), 0);
+            T.due(x.face(FLAT, 1, 1, 0, 2), 0);
+        }
     }
 
     static void term2_SHUT_is_a_GATE_halved() {

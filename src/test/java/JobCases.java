@@ -145,6 +145,10 @@ final class JobCases extends Bench {
         jammedAheadOfAll(x -> x.job(1, 1), x -> x.job(0, 1));
     }
 
+    static void promise02_undo_takes_it_back_and_nothing_before_it() {
+        takenBack(x -> x.job(1, 1));
+    }
+
     // ---- 3: page
 
     static void promise03_a_job_that_is_not_there_is_NONE() {
@@ -192,6 +196,10 @@ final class JobCases extends Bench {
         jammedAheadOfAll(x -> x.page(0), x -> x.page(2));
     }
 
+    static void promise03_undo_takes_it_back_and_nothing_before_it() {
+        takenBack(x -> x.page(0));
+    }
+
     // ---- 4: blank
 
     static void promise04_a_job_that_is_not_there_is_NONE() {
@@ -225,6 +233,10 @@ final class JobCases extends Bench {
 
     static void promise04_JAMMED_comes_ahead_of_NONE() {
         jammedAheadOfAll(x -> x.blank(0, 1), x -> x.blank(0, 0));
+    }
+
+    static void promise04_undo_takes_it_back_and_nothing_before_it() {
+        takenBack(x -> x.blank(0, 1));
     }
 
     // ---- 5: rows
@@ -280,6 +292,21 @@ final class JobCases extends Bench {
     static void promise05_JAMMED_comes_ahead_of_NONE() {
         jammedAheadOfAll(x -> x.rows(0, 1, 1), x -> x.rows(0, 0, 1));
         refused(Bench::jammedPress, x -> x.rows(0, 1, 9), JAMMED);
+    }
+
+    static void promise05_the_rows_of_the_pages_beside_it_stay() {
+        FoldPress x = press();
+        x.rows(0, 1, 8);
+        x.row(0, 1, 7, 10);
+        x.rows(0, 3, 1);
+        x.row(0, 3, 0, 1);
+        T.due(x.rows(0, 2, 8), 1);
+        T.due(x.size(0, 1, 7), 10);
+        T.due(x.size(0, 3, 0), 1);
+    }
+
+    static void promise05_undo_takes_it_back_and_nothing_before_it() {
+        takenBack(x -> x.rows(0, 1, 2));
     }
 
     // ---- 6: row
@@ -365,6 +392,19 @@ final class JobCases extends Bench {
         refused(Bench::jammedPress, x -> x.row(0, 2, 9, 11), JAMMED);
     }
 
+    static void promise06_the_letters_of_the_rows_beside_it_stay() {
+        FoldPress x = press();
+        write(x, 1, 0, "ABCDEFGHIJ");
+        write(x, 1, 2, "K");
+        T.due(x.row(0, 1, 1, 10), 1);
+        reads(x, 1, 0, "ABCDEFGHIJ");
+        reads(x, 1, 2, "K");
+    }
+
+    static void promise06_undo_takes_it_back_and_nothing_before_it() {
+        takenBack(x -> x.row(0, 1, 0, 2));
+    }
+
     // ---- 7: miss
 
     static void promise07_a_page_that_is_not_there_is_NONE() {
@@ -405,6 +445,10 @@ final class JobCases extends Bench {
     static void promise07_JAMMED_comes_ahead_of_NONE() {
         jammedAheadOfAll(x -> x.miss(0, 1, 0), x -> x.miss(0, 0, 0));
         refused(Bench::jammedPress, x -> x.miss(0, 2, 0), JAMMED);
+    }
+
+    static void promise07_undo_takes_it_back_and_nothing_before_it() {
+        takenBack(x -> x.miss(0, 1, 0));
     }
 
     // ---- 8: letter
@@ -483,6 +527,10 @@ final class JobCases extends Bench {
         jammedAheadOfAll(x -> x.letter(0, 1, 0, 0, 65), x -> x.letter(0, 0, 0, 0, 65));
         refused(Bench::jammedPress, x -> x.letter(0, 1, 0, 0, 31), JAMMED);
         refused(Bench::jammedPress, x -> x.letter(0, 2, 0, 0, 65), JAMMED);
+    }
+
+    static void promise08_undo_takes_it_back_and_nothing_before_it() {
+        takenBack(x -> x.letter(0, 1, 0, 0, 'z'));
     }
 
     // ---- 9: at
@@ -752,6 +800,28 @@ final class JobCases extends Bench {
         refused(Bench::jammedPress, x -> x.move(0, 2, 0, 1, 1, 1, 1), JAMMED);
     }
 
+    static void promise11_ten_letters_come_and_the_rows_beside_them_stay() {
+        FoldPress x = press();
+        x.rows(0, 2, 3);
+        write(x, 2, 0, "abcdefghij");
+        write(x, 2, 1, "klmnopqrst");
+        write(x, 2, 2, "u");
+        x.rows(0, 3, 2);
+        write(x, 3, 0, "0123456789");
+        write(x, 3, 1, "9876543210");
+        T.due(x.move(0, 2, 1, 3, 1, 1, 10), 1);
+        reads(x, 3, 0, "0123456789");
+        reads(x, 3, 1, "klmnopqrst");
+        T.due(x.move(0, 3, 0, 2, 0, 2, 1), 1);
+        reads(x, 2, 0, "0bcdefghij");
+        reads(x, 2, 1, "klmnopqrst");
+        reads(x, 2, 2, "u");
+    }
+
+    static void promise11_undo_takes_it_back_and_nothing_before_it() {
+        takenBack(x -> x.move(0, 1, 0, 1, 1, 1, 3));
+    }
+
     // ---- 12: moved
 
     static void promise12_it_is_0_before_any() {
@@ -932,6 +1002,33 @@ final class JobCases extends Bench {
         refused(Bench::jammedPress, x -> x.cut(0, 9, -1), JAMMED);
     }
 
+    static void promise13_the_last_page_of_the_job_ahead_stays() {
+        FoldPress x = withPages(24).get();
+        x.rows(0, 24, 8);
+        x.row(0, 24, 7, 10);
+        x.page(1);
+        x.rows(1, 1, 1);
+        T.due(x.cut(1, 0, 0), 1);
+        T.due(x.size(0, 24, -1), 8);
+        T.due(x.size(0, 24, 7), 10);
+        T.due(x.size(1, 1, -1), 0);
+    }
+
+    static void promise13_the_first_page_of_the_job_behind_stays() {
+        FoldPress x = withPages(24).get();
+        x.rows(0, 24, 8);
+        x.page(1);
+        x.rows(1, 1, 1);
+        x.row(1, 1, 0, 10);
+        T.due(x.cut(0, 8, 0), 1);
+        T.due(x.size(1, 1, -1), 1);
+        T.due(x.size(1, 1, 0), 10);
+    }
+
+    static void promise13_undo_takes_it_back_and_nothing_before_it() {
+        takenBack(x -> x.cut(0, 2, 1));
+    }
+
     // ---- 14: join
 
     static void promise14_a_job_that_is_not_there_is_NONE() {
@@ -1017,6 +1114,60 @@ final class JobCases extends Bench {
 
     static void promise14_JAMMED_comes_ahead_of_NONE() {
         jammedAheadOfAll(x -> x.join(0, 1), x -> x.join(0, 2));
+    }
+
+    static void promise14_the_pages_that_a_job_had_stay() {
+        FoldPress x = press();
+        x.page(1);
+        x.rows(1, 1, 8);
+        x.row(1, 1, 7, 10);
+        x.letter(1, 1, 7, 9, 'z');
+        x.rows(0, 3, 8);
+        x.row(0, 3, 7, 2);
+        T.due(x.join(1, 0), 4);
+        T.due(x.size(1, 1, -1), 8);
+        T.due(x.size(1, 1, 7), 10);
+        T.due(x.at(1, 1, 7, 9), 'z');
+        T.due(x.size(1, 4, 7), 2);
+        T.due(x.join(1, 0), 7);
+        T.due(x.size(1, 4, 7), 2);
+        T.due(x.at(1, 5, 0, 4), 'E');
+    }
+
+    static void promise14_a_page_of_eight_rows_of_ten_letters_comes_whole() {
+        FoldPress x = press();
+        x.rows(0, 2, 8);
+        for (int i = 0; i < 8; i++) {
+            x.row(0, 2, i, 10);
+            x.letter(0, 2, i, 0, 'a' + i);
+            x.letter(0, 2, i, 9, 'A' + i);
+        }
+        T.due(x.join(1, 0), 3);
+        for (int i = 0; i < 8; i++) {
+            T.due(x.size(1, 2, i), 10);
+            T.due(x.at(1, 2, i, 0), 'a' + i);
+            T.due(x.at(1, 2, i, 8), 32);
+            T.due(x.at(1, 2, i, 9), 'A' + i);
+        }
+    }
+
+    static void promise14_the_job_behind_one_that_has_24_pages_then_stays() {
+        FoldPress x = withPages(12).get();
+        x.rows(0, 12, 8);
+        x.row(0, 12, 7, 10);
+        x.page(1);
+        x.rows(1, 1, 1);
+        x.row(1, 1, 0, 3);
+        x.letter(1, 1, 0, 0, 'z');
+        T.due(x.join(0, 0), 24);
+        T.due(x.size(0, 24, 7), 10);
+        T.due(x.size(1, 1, -1), 1);
+        T.due(x.size(1, 1, 0), 3);
+        T.due(x.at(1, 1, 0, 0), 'z');
+    }
+
+    static void promise14_undo_takes_it_back_and_nothing_before_it() {
+        takenBack(x -> x.join(1, 0));
     }
 
     // ---- 52: about

@@ -107,6 +107,20 @@ final class RunCases extends Bench {
         jammedAheadOfAll(x -> x.foldBy(0, HALF), x -> x.foldBy(4, HALF));
     }
 
+    static void promise39_undo_takes_it_back_and_nothing_before_it() {
+        takenBack(x -> x.foldBy(0, HALF));
+        FoldPress x = press();
+        x.feed(0);
+        steps(x, 3);
+        x.foldBy(0, HALF);
+        T.due(x.undo(), 1);
+        spoils(x, BLANK);
+        FoldPress y = atStation(FOLD);
+        y.foldBy(0, THIRD);
+        T.due(y.undo(), 1);
+        T.due(y.step(), 1);
+    }
+
     // ---- 40: margin
 
     static void promise40_it_is_3_at_first() {
@@ -143,6 +157,10 @@ final class RunCases extends Bench {
 
     static void promise40_JAMMED_comes_ahead_of_OUTSIDE() {
         jammedAheadOfAll(x -> x.margin(1), x -> x.margin(10));
+    }
+
+    static void promise40_undo_takes_it_back_and_nothing_before_it() {
+        takenBack(x -> x.margin(9));
     }
 
     // ---- 41: feed
@@ -222,6 +240,10 @@ final class RunCases extends Bench {
         refused(Bench::jammedPress, x -> x.feed(1), JAMMED);
     }
 
+    static void promise41_undo_takes_it_back_and_nothing_before_it() {
+        takenBack(x -> x.feed(0));
+    }
+
     // ---- 42: doubled
 
     static void promise42_the_next_sheet_at_station_0_is_a_DOUBLE_and_the_one_after_it_is_not() {
@@ -299,6 +321,10 @@ final class RunCases extends Bench {
         refused(Bench::jammedPress, FoldPress::doubled, JAMMED);
     }
 
+    static void promise42_undo_takes_it_back_and_nothing_before_it() {
+        takenBack(FoldPress::doubled);
+    }
+
     // ---- 43: jam
 
     static void promise43_a_station_below_0_is_OUTSIDE() {
@@ -368,6 +394,10 @@ final class RunCases extends Bench {
 
     static void promise43_JAMMED_comes_ahead_of_OUTSIDE() {
         jammedAheadOfAll(x -> x.jam(0), x -> x.jam(5));
+    }
+
+    static void promise43_undo_takes_it_back_and_nothing_before_it() {
+        takenBack(x -> x.jam(0));
     }
 
     // ---- 44: step
@@ -523,6 +553,10 @@ final class RunCases extends Bench {
         T.due(x.told(6), traced);
     }
 
+    static void promise44_undo_takes_it_back_and_nothing_before_it() {
+        takenBack(FoldPress::step);
+    }
+
     // ---- 45: reprint
 
     static void promise45_a_sheet_that_is_not_there_is_NONE() {
@@ -567,6 +601,10 @@ final class RunCases extends Bench {
         refused(Bench::jammedPress, x -> x.reprint(1), JAMMED);
         refused(Bench::jammedPress, x -> x.reprint(4), JAMMED);
         refused(Bench::jammedPress, x -> x.reprint(0), JAMMED);
+    }
+
+    static void promise45_undo_takes_it_back_and_nothing_before_it() {
+        takenBack(RunCases::spoilt, x -> x.reprint(0));
     }
 
     // ---- 46: clear
@@ -615,6 +653,10 @@ final class RunCases extends Bench {
         T.due(x.undo(), 1);
         T.due(x.told(12), 7);
         T.due(x.undo(), 0);
+    }
+
+    static void promise46_undo_takes_it_back_and_nothing_before_it() {
+        takenBack(FoldPress::clear);
     }
 
     // ---- 47: state
@@ -970,6 +1012,46 @@ final class RunCases extends Bench {
         FoldPress x = atStation(TURN);
         x.tear(0, FRONT, 0);
         T.due(x.step(), 1);
+    }
+
+    static void term5_PRINT_and_TURN_of_eight_rows_ask_no_row_of_the_other_side() {
+        FoldPress x = press();
+        T.due(x.sheet(0, 8, 8), 4);
+        x.feed(4);
+        x.step();
+        x.tear(4, BACK, 0);
+        T.due(x.step(), 1);
+        stands(x, 4, TURN, 0, 0);
+        FoldPress y = press();
+        T.due(y.sheet(0, 8, 8), 4);
+        y.feed(4);
+        steps(y, 2);
+        y.tear(4, FRONT, 7);
+        T.due(y.step(), 1);
+        stands(y, 4, FOLD, 0, 0);
+    }
+
+    static void term5_PRINT_and_TURN_ink_all_64_cells_of_a_side() {
+        FoldPress x = press();
+        T.due(x.sheet(0, 8, 8), 4);
+        for (int n = 0; n < 128; n++) {
+            x.put(4, n / 64, n / 8 % 8, n % 8, 1, 0);
+        }
+        x.feed(4);
+        steps(x, 2);
+        T.due(x.told(3), 64 * 'A');
+        x.step();
+        T.due(x.told(3), 128 * 'A');
+    }
+
+    static void term5_PRINT_of_the_last_cell_alone_meets_its_finding() {
+        FoldPress x = press();
+        T.due(x.sheet(0, 8, 8), 4);
+        x.put(4, FRONT, 7, 7, 2, 0);
+        x.feed(4);
+        x.step();
+        T.due(x.step(), 0);
+        stands(x, 4, SPOILT, 0, BLANK);
     }
 
     static void term5_PRINT_of_a_TORN_row_without_cells_is_BLANK() {

@@ -120,6 +120,10 @@ final class SheetCases extends Bench {
         refused(Bench::jammedPress, x -> x.sheet(0, 9, 1), JAMMED);
     }
 
+    static void promise22_undo_takes_it_back_and_nothing_before_it() {
+        takenBack(x -> x.sheet(0, 1, 1));
+    }
+
     // ---- 23: tear
 
     static void promise23_a_sheet_that_is_not_there_is_NONE_ahead_of_OUTSIDE() {
@@ -172,6 +176,10 @@ final class SheetCases extends Bench {
         jammedAheadOfAll(x -> x.tear(0, FRONT, 0), x -> x.tear(4, FRONT, 0));
         refused(Bench::jammedPress, x -> x.tear(0, 2, 0), JAMMED);
         refused(Bench::jammedPress, x -> x.tear(0, FRONT, 1), JAMMED);
+    }
+
+    static void promise23_undo_takes_it_back_and_nothing_before_it() {
+        takenBack(x -> x.tear(2, BACK, 1));
     }
 
     // ---- 24: put
@@ -267,6 +275,16 @@ final class SheetCases extends Bench {
         jammedAheadOfAll(x -> x.put(0, FRONT, 0, 0, 1, 0), x -> x.put(4, FRONT, 0, 0, 1, 0));
         refused(Bench::jammedPress, x -> x.put(0, FRONT, 0, 0, 25, 0), JAMMED);
         refused(Bench::jammedPress, x -> x.put(0, FRONT, 1, 0, 1, 0), JAMMED);
+    }
+
+    static void promise24_a_row_BEYOND_stays_so_beside_a_side_that_is_TORN() {
+        stopped(after(x -> x.tear(0, BACK, 0)), x -> x.put(0, FRONT, 8, 0, 1, 0), BEYOND);
+        stopped(after(x -> x.sheet(0, 8, 8), x -> x.tear(4, FRONT, 7)), x -> x.put(4, BACK, -1, 0, 1, 0), BEYOND);
+        stopped(after(x -> x.sheet(0, 8, 8), x -> x.tear(4, BACK, 0)), x -> x.put(4, FRONT, 8, 0, 1, 0), BEYOND);
+    }
+
+    static void promise24_undo_takes_it_back_and_nothing_before_it() {
+        takenBack(x -> x.put(0, BACK, 0, 1, 24, 1));
     }
 
     // ---- 25: cell
@@ -462,6 +480,10 @@ final class SheetCases extends Bench {
         refused(Bench::jammedPress, x -> x.shift(0, 0, 1, 1, 1, 0, 1, 1), JAMMED);
     }
 
+    static void promise26_undo_takes_it_back_and_nothing_before_it() {
+        takenBack(SheetCases::withPages, x -> x.shift(2, FRONT, 0, 0, BACK, 0, 1, 2));
+    }
+
     // ---- 27: lay
 
     static void promise27_a_sheet_or_fold_that_is_not_there_is_NONE_ahead_of_OUTSIDE() {
@@ -572,6 +594,10 @@ final class SheetCases extends Bench {
         refused(Bench::jammedPress, x -> x.lay(0, THIRD, 1), JAMMED);
     }
 
+    static void promise27_undo_takes_it_back_and_nothing_before_it() {
+        takenBack(x -> x.lay(0, HALF, 1));
+    }
+
     // ---- 28: read
 
     static void promise28_a_sheet_or_fold_that_is_not_there_is_NONE() {
@@ -619,6 +645,18 @@ final class SheetCases extends Bench {
         T.due(x.put(0, BACK, 0, 0, 23, 0), 1);
         T.due(x.read(0, HALF, 0), 24);
         T.due(x.read(0, HALF, 3), 23);
+    }
+
+    static void promise28_every_face_of_every_sheet_is_its_own() {
+        FoldPress x = press();
+        for (int n = 0; n < 8; n++) {
+            x.put(n / 4, n / 2 % 2, 0, n % 2, n + 1, 0);
+        }
+        int[] pages = {4, 2, 1, 3};
+        for (int k = 0; k < 4; k++) {
+            T.due(x.read(0, HALF, k), pages[k]);
+            T.due(x.read(1, HALF, k), 4 + pages[k]);
+        }
     }
 
     static void promise28_it_answers_while_the_press_is_JAMMED() {
