@@ -1324,14 +1324,21 @@ public final class FoldPress {
             for (int line = 0; line < lines; line++) {
                 int source = byRows ? placeOf(from, line) : placeOf(line, from);
                 int target = byRows ? placeOf(to, line) : placeOf(line, to);
-                for (int n = 0; n < LEAVES && tops[source] != EMPTY; n++) {
-                    int leaf = tops[source];
-                    tops[source] = belows[leaf];
+                int leaf = tops[source];
+                for (int n = 0; n < LEAVES && isLeaf(leaf); n++) {
+                    int next = belows[leaf];
                     belows[leaf] = tops[target];
                     tops[target] = leaf;
                     lies[leaf] ^= flip;
+                    leaf = next;
                 }
+                tops[source] = EMPTY;
             }
+        }
+
+        /** Not EMPTY, and so a place of the rows that are kept by leaf. */
+        private static boolean isLeaf(int leaf) {
+            return leaf >= 0 && leaf < LEAVES;
         }
 
         /** Where the pile of a row and a column of the window lies; always one of the places of the grid. */
@@ -1344,7 +1351,7 @@ public final class FoldPress {
         int listLeaves(int[] list, int start) {
             int leaf = tops[placeOf(0, 0)];
             int count = 0;
-            while (leaf != EMPTY && count < LEAVES && start >= 0 && start + count < list.length) {
+            while (isLeaf(leaf) && count < LEAVES && start >= 0 && start + count < list.length) {
                 list[start + count] = leaf * LIES + lies[leaf];
                 leaf = belows[leaf];
                 count++;

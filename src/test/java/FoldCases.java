@@ -496,6 +496,20 @@ final class FoldCases extends Bench {
         answers(x -> x.faces(HALF, 0, 2), OPEN);
     }
 
+    static void term2_a_grid_of_0_rows_has_its_columns_all_the_same_and_one_of_0_columns_its_rows() {
+        met(x -> x.faces(HALF, 0, 3), UNFIT);
+        met(x -> x.faces(ROWS, 3, 0), UNFIT);
+        met(x -> x.faces(THIRD, 0, 2), UNFIT);
+        met(x -> x.faces(THIRD, 0, 3), OPEN);
+        met(x -> x.faces(GATE, 0, 6), UNFIT);
+        met(x -> x.faces(SHUT, 0, 8), OPEN);
+        FoldPress x = press();
+        x.faces(CROSS, 0, 3);
+        T.due(x.told(6), 2);
+        T.due(x.faces(CROSS, 3, 0), UNFIT);
+        T.due(x.told(6), 5);
+    }
+
     static void term2_two_piles_left_are_OPEN_in_a_row_and_in_a_column() {
         answers(x -> x.faces(FLAT, 1, 2), OPEN);
         answers(x -> x.faces(FLAT, 2, 1), OPEN);
